@@ -11,6 +11,8 @@ public final class RandomRuns {
   private final int baseDay;
   private final int spread;
   private final boolean isPlain;
+  /** Many dates near one another that stay: few rules, zones and series change. */
+  private final boolean isDense;
   private Calendarhall hall = new Calendarhall();
   private Model model = new Model();
   private int asked = 0;
@@ -24,8 +26,9 @@ public final class RandomRuns {
     random = new Random(77000L + run);
     int[] bases = {10, 10, 10, 12, 80, 85, 300, 50 + random.nextInt(100000), 145980, 59, 36580};
     baseDay = bases[random.nextInt(bases.length)];
-    spread = random.nextBoolean() ? 6 : 30;
     isPlain = random.nextInt(4) > 0;
+    isDense = run % 2 == 1;
+    spread = isDense ? 3 + random.nextInt(4) : random.nextBoolean() ? 6 : 30;
   }
 
   public static void main(String[] args) {
@@ -101,7 +104,7 @@ public final class RandomRuns {
 
   private int person() { return in(0, 7); }
   private int zone() { return in(0, 2); }
-  private int series() { return rarely() ? in(0, 11) : there(); }
+  private int series() { return rarely() ? in(0, 11) : isDense && below(4) == 0 ? 0 : there(); }
 
   private int there() {
     int n = below(12);
@@ -125,7 +128,8 @@ public final class RandomRuns {
   private boolean step(int focus) {
     int there = 0;
     for (Model.Series x : model.s.series) if (x != null) there++;
-    if (there < 2 + focus && below(3) == 0) return addSeries();
+    if (there < 2 + 2 * focus && below(3) == 0) return addSeries();
+    if (isDense && below(3) > 0) return denseStep(focus);
     switch (below(10)) {
       case 0: return zonesAndPeople();
       case 1: return seriesChanges(below(14));
@@ -148,15 +152,33 @@ public final class RandomRuns {
     }
   }
 
+  private boolean denseStep(int focus) {
+    switch (below(9)) {
+      case 0: return seriesChanges(6 + below(6));
+      case 1: return seriesChanges(7 + below(5));
+      case 2: return answers();
+      case 3: return clock();
+      case 4: return busy();
+      case 5: return rooms();
+      case 6: return plans();
+      case 7: return questions(6 + below(6));
+      default: return focus == 0 ? devices() : focus == 1 ? clock() : focus == 2 ? plans() : focus == 3 ? seriesChanges(8) : busy();
+    }
+  }
+
   private boolean addSeries() {
     int a = zone(), b = day(), c = inDay(), d = length(), e = people();
     boolean f = coin();
+    if (isDense) {
+      int day = rarely() ? b : baseDay, people = below(3) == 0 ? 255 : e, length = coin() ? d : 60 + below(541);
+      return alike("addSeries(" + a + "," + day + "," + c + "," + length + "," + people + "," + f + ")", () -> hall.addSeries(a, day, c, length, people, f), () -> model.addSeries(a, day, c, length, people, f)) && setRule(there());
+    }
     if (!alike("addSeries(" + a + "," + b + "," + c + "," + d + "," + e + "," + f + ")", () -> hall.addSeries(a, b, c, d, e, f), () -> model.addSeries(a, b, c, d, e, f))) return false;
     return setRule(there());
   }
 
   private boolean setRule(int n) {
-    int kind = in(0, 5);
+    int kind = isDense && below(8) > 0 ? 1 + below(2) : in(0, 5);
     boolean isOff = rarely();
     int step = kind == 0 && !isOff ? 0 : coin() ? 1 : below(4) == 0 ? in(1, 99) : 1 + below(3);
     int days = (kind == 2 || kind == 4) != isOff ? in(1, 127) : 0;
@@ -165,7 +187,7 @@ public final class RandomRuns {
   }
 
   private boolean zonesAndPeople() {
-    switch (below(7)) {
+    switch (isDense ? 2 + below(5) : below(7)) {
       case 0: case 1: {
         int z = zone(), o = rarely() ? in(-720, 840) : 15 * (below(105) - 48), h = rarely() ? in(0, 120) : 15 * below(9);
         return alike("setZone(" + z + "," + o + "," + h + ")", () -> hall.setZone(z, o, h), () -> model.setZone(z, o, h));
@@ -225,7 +247,7 @@ public final class RandomRuns {
 
   private boolean undoOrDrop() {
     int n = series();
-    if (below(4) == 0) return alike("dropSeries(" + n + ")", () -> hall.dropSeries(n), () -> model.dropSeries(n));
+    if (below(isDense ? 8 : 4) == 0) return alike("dropSeries(" + n + ")", () -> hall.dropSeries(n), () -> model.dropSeries(n));
     return alike("undo()", () -> hall.undo(), () -> model.undo());
   }
 
@@ -258,7 +280,7 @@ public final class RandomRuns {
         int n = series(), a = coin() ? in(0, 1440) : 15 * below(8);
         return alike("remind(" + n + "," + a + ")", () -> hall.remind(n, a), () -> model.remind(n, a));
       }
-      case 1: return below(4) > 0 || alike("forget(" + r + ")", () -> hall.forget(r), () -> model.forget(r));
+      case 1: return below(6) > 0 || alike("forget(" + r + ")", () -> hall.forget(r), () -> model.forget(r));
       case 2: case 3: {
         int m = in(1, 1440);
         return alike("pass(" + m + ")", () -> hall.pass(m), () -> model.pass(m));
@@ -281,7 +303,7 @@ public final class RandomRuns {
     int d = in(0, 1), n = coin() ? below(2) : in(0, 11), f = coin() ? 0 : in(0, 3);
     switch (below(6)) {
       case 0: case 1: {
-        int v = in(0, 999);
+        int v = coin() ? below(3) : in(0, 999);
         return alike("change(" + d + "," + n + "," + f + "," + v + ")", () -> hall.change(d, n, f, v), () -> model.change(d, n, f, v));
       }
       case 2: case 3: {
@@ -410,7 +432,12 @@ public final class RandomRuns {
       }
       case 4: {
         int t = behind(f, 10080);
-        return alike("clashes(" + p + "," + f + "," + t + ")", () -> hall.clashes(p, f, t), () -> model.clashes(p, f, t));
+        boolean isRight = alike("clashes(" + p + "," + f + "," + t + ")", () -> hall.clashes(p, f, t), () -> model.clashes(p, f, t));
+        for (int k = 0; isRight && k < model.clashes.size() && k < 8 && asked < 510; k++) {
+          int c = k, w = below(4);
+          isRight = alike("clashAt(" + c + "," + w + ")", () -> hall.clashAt(c, w), () -> model.clashAt(c, w));
+        }
+        return isRight;
       }
       case 5: {
         int c = in(0, Math.max(1, model.clashes.size())), w = in(0, 3);
@@ -445,7 +472,12 @@ public final class RandomRuns {
     switch (below(4)) {
       case 0: case 1: {
         int m = coin() ? 4095 : in(1, 4095);
-        return alike("plan(" + m + "," + f + "," + t + ")", () -> hall.plan(m, f, t), () -> model.plan(m, f, t));
+        boolean isRight = alike("plan(" + m + "," + f + "," + t + ")", () -> hall.plan(m, f, t), () -> model.plan(m, f, t));
+        for (int k = 0; isRight && model.plan != null && k < model.plan.size() && asked < 510; k++) {
+          int p = k;
+          isRight = alike("planAt(" + p + ",2)", () -> hall.planAt(p, 2), () -> model.planAt(p, 2));
+        }
+        return isRight;
       }
       case 2: return below(3) > 0 || alike("applyPlan()", () -> hall.applyPlan(), () -> model.applyPlan());
       default: {
