@@ -216,7 +216,6 @@ public final class Calendarhall {
     made.length = length;
     made.keepExceptions(day, LAST_DAY);
     made.rule.beginAt(day);
-    made.rule.settle();
     old.keepExceptions(FIRST_DAY, day - 1);
     old.rule.putEnd(BY_LAST_DAY, day - 1);
     old.rule.settle();
@@ -989,7 +988,7 @@ public final class Calendarhall {
       if (day != NONE) last = day;
     }
 
-    /** Makes one of the days the first one; of a count what is left of it stays. */
+    /** Makes one of the days the first one; of a count what is left of it stays, so the last day stays too. */
     void beginAt(int day) {
       if (how == BY_COUNT) number -= count(first, day - 1);
       first = day;
@@ -1017,7 +1016,8 @@ public final class Calendarhall {
       if (kind == WEEKS) return isInSet && (Days.weekOf(day) - Days.weekOf(first)) % step == 0;
       int month = Days.monthOf(day);
       int firstMonth = Days.monthOf(first);
-      if ((month - firstMonth) % monthStep() != 0) return false;
+      int stride = monthStep();
+      if (stride < 1 || (month - firstMonth) % stride != 0) return false;
       int ahead = day - Days.monthBegin(month);
       int behind = Days.monthLength(month) - 1 - ahead;
       if (kind == YEARS) return ahead == first - Days.monthBegin(firstMonth);

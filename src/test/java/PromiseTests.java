@@ -57,8 +57,8 @@ public final class PromiseTests {
     p17Answer(); p18Counter(); p19Accept(); p20Remind(); p21Forget(); p22Pass(); p23Snooze();
     p24Change(); p25Deliver(); p26Undo(); p26UndoOfAll();
     p27DayOf(); p28DayAt(); p29ToLocal(); p30ToCommon();
-    p31SeriesAt(); p32NextDay(); p33CountDays(); p34DayOfSeries(); p35Begin(); p36NextDate(); p37CountDates();
-    p38AnswerOf(); p39CounterOf(); p40DatesAt(); p41MinutesOf(); p42FreeNext(); p43Best();
+    p31SeriesAt(); p32NextDay(); p33CountDays(); p34DayOfSeries(); p35Begin(); p36NextDate(); p36ToTheMinute(); p37CountDates();
+    p38AnswerOf(); p39CounterOf(); p40DatesAt(); p41MinutesOf(); p41AboutSwitches(); p42FreeNext(); p43Best();
     p44Clashes(); p45ClashAt(); p46RoomsNeeded(); p47LayRooms(); p48RoomOf(); p49Plan(); p50PlanAt();
     p51Now(); p52NextRing(); p53Rings(); p54RingAt(); p55Shown(); p56AreAlike();
     p57Type(); p58ClearText(); p59ErrorPlace(); p60Write(); p61WrittenAt();
@@ -589,6 +589,20 @@ public final class PromiseTests {
     due(60, () -> x.seriesAt(3, 11));
     due(52, () -> x.nextDay(3, 39));
     due(37, () -> x.seriesAt(2, 11));
+    // Each day, by a count.
+    Calendarhall y = fresh(15);
+    y.addSeries(0, 10, 0, 1, 0, false);
+    y.setRule(0, 1, 1, 0, 0);
+    y.setEnd(0, 1, 5);
+    due(1, () -> y.fromHere(0, 12, 0, 1));
+    due(3, () -> y.seriesAt(1, 11));
+    due(3, () -> y.countDays(1, 10, 146000));
+    due(NONE, () -> y.nextDay(1, 15));
+    due(2, () -> y.countDays(0, 10, 146000));
+    due(1, () -> y.seriesAt(1, 7));
+    y.undo();
+    due(5, () -> y.countDays(0, 10, 146000));
+    due(OUT, () -> y.seriesAt(1, 0));
     // Without an end.
     x.addSeries(0, 10, 0, 1, 0, false);
     x.setRule(4, 1, 3, 0, 0);
@@ -837,6 +851,24 @@ public final class PromiseTests {
     due(1, () -> x.pass(500));
     due(0, () -> x.pass(1440));
     due(12, () -> x.rings());
+
+    // One comes, the others stay as they are; and undo brings back the one that came.
+    Calendarhall y = fresh(23);
+    y.addSeries(0, 10, 10, 30, 7, false);
+    for (int k = 0; k < 3; k++) y.remind(0, k);
+    y.pass(20);
+    for (int k = 0; k < 3; k++) y.snooze(k, 5 + 5 * k);
+    for (int turn = 0; turn < 2; turn++) {
+      due(1, () -> y.pass(5));
+      due(2, () -> y.ringAt(3, 0));
+      due(1, () -> y.pass(5));
+      due(1, () -> y.ringAt(4, 0));
+      due(1, () -> y.pass(5));
+      due(0, () -> y.ringAt(5, 0));
+      due(14435, () -> y.ringAt(5, 2));
+      due(0, () -> y.pass(100));
+      for (int k = 0; k < 4; k++) y.undo();
+    }
   }
 
   private static void p24Change() {
@@ -1000,6 +1032,33 @@ public final class PromiseTests {
     due(1, () -> x.change(1, 0, 0, 0));
     // What is not brought back.
     due(12, () -> x.type(0));
+
+    // The clocks by which a device shows: what comes behind an undone change is shown.
+    Calendarhall y = fresh(26);
+    y.change(1, 0, 0, 5);
+    y.change(0, 0, 0, 6);
+    y.change(0, 0, 0, 7);
+    y.undo();
+    due(6, () -> y.shown(0, 0, 0));
+    due(1, () -> y.deliver(1, 0));
+    due(5, () -> y.shown(0, 0, 0));
+    y.undo();
+    due(6, () -> y.shown(0, 0, 0));
+    due(2, () -> y.change(0, 0, 0, 8));
+
+    // The rings that were kept, also those that fell out.
+    Calendarhall z = fresh(26);
+    z.addSeries(0, 10, 600, 30, 7, false);
+    z.setRule(0, 1, 1, 0, 0);
+    for (int k = 0; k < 10; k++) z.remind(0, k);
+    for (int k = 0; k < 4; k++) z.pass(1440);
+    due(11, () -> z.ringAt(0, 1));
+    z.undo();
+    due(10, () -> z.ringAt(0, 1));
+    due(12, () -> z.ringAt(29, 1));
+    z.undo();
+    due(20, () -> z.rings());
+    due(11, () -> z.ringAt(19, 1));
   }
 
   private static String changeOne(Calendarhall x, int which) {
@@ -1277,6 +1336,38 @@ public final class PromiseTests {
     due(BAD, () -> x.nextDate(0, LAST + 1));
     x.setZone(0, 840, 0);
     due(NONE, () -> x.nextDate(0, LAST));
+    // Many days one behind the other that are left out.
+    Calendarhall y = fresh(36);
+    y.addSeries(0, 10, 600, 30, 0, false);
+    y.setRule(0, 1, 1, 0, 0);
+    for (int k = 0; k < 10; k++) y.leaveOut(0, 11 + k);
+    due(21, () -> y.nextDate(0, 15001));
+    due(1, () -> y.countDates(0, 15001, 21 * DAY + 601));
+  }
+
+  /** Begins are found to the minute, in all zones and about their switches. */
+  private static void p36ToTheMinute() {
+    for (int offset : new int[] {-720, -15, 0, 840}) for (int shift : new int[] {0, 15, 120}) for (int minute : new int[] {0, 150, 1439}) {
+      Calendarhall x = fresh(36);
+      x.setZone(0, offset, shift);
+      x.addSeries(0, 12, minute, 30, 1, false);
+      x.setRule(0, 1, 1, 0, 0);
+      for (int d : new int[] {13, 20, 84, 85, 86, 87, 200, 301, 302, 303, 304}) {
+        int begin = x.begin(0, d);
+        due(d, () -> x.nextDate(0, begin));
+        due(d + 1, () -> x.nextDate(0, begin + 1));
+        due(1, () -> x.countDates(0, begin, begin + 1));
+        due(0, () -> x.countDates(0, begin + 1, begin + 120));
+        due(0, () -> x.countDates(0, begin - 120, begin));
+        due(2, () -> x.countDates(0, begin, x.begin(0, d + 1) + 1));
+        due(1, () -> x.datesAt(0, begin + 29));
+        due(0, () -> x.datesAt(0, begin + 30));
+        due(0, () -> x.datesAt(0, begin - 1));
+        due(1, () -> x.minutesOf(0, begin + 29, begin + 100, 0));
+        due(0, () -> x.minutesOf(0, begin + 30, begin + 100, 0));
+        due(1, () -> x.minutesOf(0, begin - 100, begin + 1, 0));
+      }
+    }
   }
 
   private static void p37CountDates() {
@@ -1293,6 +1384,8 @@ public final class PromiseTests {
     x.move(0, 13, 600, 0);
     due(364, () -> x.countDates(0, FIRST, FIRST + 525600));
     due(1, () -> x.countDates(0, 12 * DAY, 12 * DAY + 1));
+    due(0, () -> x.countDates(0, 12 * DAY - 1, 12 * DAY));
+    due(0, () -> x.countDates(0, 12 * DAY + 1, 12 * DAY + 2));
     due(OUT, () -> x.countDates(1, 0, 0));
     due(BAD, () -> x.countDates(0, FIRST, FIRST));
     due(BAD, () -> x.countDates(0, FIRST + 1, FIRST));
@@ -1378,6 +1471,34 @@ public final class PromiseTests {
     due(BAD, () -> x.minutesOf(0, FIRST - 1, FIRST, 0));
     due(BAD, () -> x.minutesOf(0, FIRST, FIRST + 1, 3));
     due(BAD, () -> x.minutesOf(0, FIRST, FIRST + 1, -1));
+  }
+
+  /** Work hours about switches on the first days of months, each minute looked at by the model. */
+  private static void p41AboutSwitches() {
+    int[][] switches = {{4, 1, 5, 0}, {4, 1, 5, 100}, {3, 5, 4, 1439}, {3, 5, 4, 1380}, {4, 1, 5, 1300}, {4, 1, 6, 60}};
+    int[][] hours = {{0, 1440}, {0, 60}, {90, 200}, {1380, 1440}, {540, 1020}, {30, 1410}};
+    promise = 41;
+    // The 1st of April 2000 is a Saturday, day 91; the other switch is far away.
+    for (int[] w : switches) for (boolean isForth : new boolean[] {true, false}) for (int shift : new int[] {15, 120}) {
+      Calendarhall x = new Calendarhall();
+      Model m = new Model();
+      x.setSwitch(0, !isForth, 8, 1, 0, 0);
+      m.setSwitch(0, !isForth, 8, 1, 0, 0);
+      x.setSwitch(0, isForth, w[0], w[1], w[2], w[3]);
+      m.setSwitch(0, isForth, w[0], w[1], w[2], w[3]);
+      x.setZone(0, 60, shift);
+      m.setZone(0, 60, shift);
+      for (int k = 0; k < hours.length; k++) {
+        int p = k;
+        x.setPerson(p, 0, 127, hours[p][0], hours[p][1]);
+        m.setPerson(p, 0, 127, hours[p][0], hours[p][1]);
+        for (int from : new int[] {87 * DAY, 90 * DAY + 100, 90 * DAY + 1310}) for (int to : new int[] {91 * DAY + 77, 92 * DAY, 93 * DAY + 700}) {
+          due(m.minutesOf(p, from, to, 1), () -> x.minutesOf(p, from, to, 1));
+          due(m.freeNext(1 << p, from, to, 61, true), () -> x.freeNext(1 << p, from, to, 61, true));
+          due(m.best(1 << p, from, to, 400, false), () -> x.best(1 << p, from, to, 400, false));
+        }
+      }
+    }
   }
 
   private static void p42FreeNext() {
@@ -1481,6 +1602,18 @@ public final class PromiseTests {
     due(1, () -> x.clashes(0, FIRST, day));
     dueClash(x, 0, 2, 10, 1, 10);
     x.edit(1, 0, 751);
+    due(0, () -> x.clashes(0, FIRST, day));
+    // From the building 7 to the building 4, and back, it takes 15 minutes.
+    x.setRoom(0, 7);
+    x.setRoom(1, 4);
+    x.edit(0, 0, 600);
+    x.edit(2, 0, 674);
+    x.edit(1, 0, 689);
+    due(2, () -> x.clashes(0, FIRST, day));
+    x.edit(2, 0, 675);
+    due(1, () -> x.clashes(0, FIRST, day));
+    dueClash(x, 0, 2, 10, 1, 10);
+    x.edit(1, 0, 691);
     due(0, () -> x.clashes(0, FIRST, day));
     due(OUT, () -> x.clashes(8, 0, 0));
     due(BAD, () -> x.clashes(0, FIRST, FIRST + 10081));
@@ -1793,6 +1926,18 @@ public final class PromiseTests {
     due(STATE, () -> x.type(1));
     due(120, () -> x.type(0));
     due(112, () -> x.errorPlace());
+    // Each of the eight bytes counts for itself.
+    x.clearText();
+    for (int k = 0; k < 14; k++) x.type(-1L);
+    due(113, () -> x.type(0x0100L));
+    for (int k = 0; k < 8; k++) {
+      long hole = ~(255L << 8 * k);
+      due(120, () -> x.type(hole));
+      due(STATE, () -> x.type(-1L));
+      due(120, () -> x.clearText());
+      for (int j = 0; j < 113; j++) x.type(32);
+      due(STATE, () -> x.type(-1L));
+    }
   }
 
   private static void p58ClearText() {
@@ -1808,7 +1953,8 @@ public final class PromiseTests {
   private static void p59ErrorPlace() {
     Calendarhall x = fresh(59);
     Object[][] texts = {
-      {"", 0}, {"   ", 3}, {"once", NONE}, {" once ", NONE}, {"onc", 0}, {"oncee", 0}, {"once once", 5}, {"Once", 0}, {"once!", 4},
+      {"oncez", 0}, {"xnce", 0}, {"avery days", 0}, {"every xays", 6}, {"every weeks on xo", 15}, {"every weeks on mx", 15}, {"every daysz", 6},
+      {"every months on xast", 16}, {"once xor 1", 5}, {"once for1", NONE}, {"", 0}, {"   ", 3}, {"once", NONE}, {" once ", NONE}, {"onc", 0}, {"oncee", 0}, {"once once", 5}, {"Once", 0}, {"once!", 4},
       {"on ce", 0}, {"every", 5}, {"every ", 6}, {"every 1", 7}, {"every 0 days", 6}, {"every 100 days", 6}, {"every 99 days", NONE},
       {"every 99999999999999999999999 days", 6}, {"every 4294967297 days", 6}, {"every 1 2 days", 8}, {"every days 5", 11},
       {"every days for", 14}, {"every days for 0", 15}, {"every days for 1", NONE}, {"every days for 500", NONE}, {"every days for 501", 15},
@@ -1889,6 +2035,8 @@ public final class PromiseTests {
     due(0.0, () -> x.busyShare(0, FIRST, FIRST + 540));
     due(0.0, () -> x.busyShare(1, FIRST, FIRST + DAY));
     due(1.0, () -> x.busyShare(0, FIRST + 540, FIRST + 560));
+    due(1.0, () -> x.busyShare(0, FIRST + 530, FIRST + 541));
+    due(0.5, () -> x.busyShare(0, FIRST + 559, FIRST + 561));
     due(OUT, () -> x.busyShare(8, 0, 0));
     due(BAD, () -> x.busyShare(0, FIRST, FIRST + 20161));
     due(BAD, () -> x.busyShare(0, FIRST, FIRST));
