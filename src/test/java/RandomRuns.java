@@ -32,7 +32,7 @@ public final class RandomRuns {
   }
 
   public static void main(String[] args) {
-    int runs = args.length > 0 ? Integer.parseInt(args[0]) : 150;
+    int runs = args.length > 0 ? Integer.parseInt(args[0]) : 300;
     int first = args.length > 1 ? Integer.parseInt(args[1]) : 0;
     for (int k = first; k < first + runs; k++) {
       RandomRuns one = new RandomRuns(k);
