@@ -5,7 +5,7 @@ import java.util.NoSuchElementException;
  * plans, reminders and two devices. What each call must answer is told in ../shared/DOC.md.
  *
  * All rows are made in constructors and used again; a call makes no object but the exception that
- * it throws.
+ * it throws (and the room of what is written, which grows to its greatest length once).
  */
 public final class Calendarhall {
   public static final int NONE = -1;
