@@ -1442,10 +1442,23 @@ public final class EdgesOfChanges extends Sentences {
       for (int minutes : new int[] {0, -1, 1441, LEAST, MOST}) due(BAD, () -> fresh().pass(minutes));
     });
     of("Throws `IllegalStateException` if the clock would tell more than 210240000", () -> {
-      // In 512 calls the clock cannot come so far; as far as it comes nothing is refused.
+      // As far as the clock comes in 512 calls nothing is refused.
       Calendarhall x = fresh();
       for (int k = 0; k < 510; k++) due(0, () -> x.pass(1440));
       due(FIRST + 510 * DAY, () -> x.now());
+      // It takes many more calls to come so far. What they answer is free, but this is what we let them answer.
+      Calendarhall y = fresh();
+      for (int k = 10; k < 145999; k++) y.pass(1440);
+      due(0, () -> y.pass(1439));
+      due(LAST - 1, () -> y.now());
+      due(STATE, () -> y.pass(2));
+      due(STATE, () -> y.pass(1440));
+      due(BAD, () -> y.pass(1441));
+      due(LAST - 1, () -> y.now());
+      due(0, () -> y.pass(1));
+      due(LAST, () -> y.now());
+      due(STATE, () -> y.pass(1));
+      due(7, () -> y.undo());
     });
   }
 
